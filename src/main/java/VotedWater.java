@@ -458,7 +458,7 @@ public final class VotedWater {
         return v >= least && v <= most;
     }
 
-    /** A row of numbers with room for so many; no other class puts an index to an array of numbers. */
+    /** A row of numbers with room for so many, which never goes beyond it. */
     static final class Row {
         private final int[] numbers;
         int size;
@@ -473,11 +473,12 @@ public final class VotedWater {
         }
 
         boolean hasStretch(int i, int n) {
-            return n >= 0 && n <= size && i >= 0 && i <= size - n;
+            return n >= 0 && i >= 0 && i <= Math.min(size, numbers.length) - n;
         }
 
         /** 0, if there is no such number. */
         int at(int i) {
+            // Not by has(): a law that is worked out in an HOUR AHEAD asks here as deep as calls may go.
             return i >= 0 && i < size && i < numbers.length ? numbers[i] : 0;
         }
 
@@ -549,6 +550,8 @@ public final class VotedWater {
         int over;
         int stuck;
         int bridge;
+        // The sum of VOTES in the HOUR that goes by; it tells nothing behind it.
+        int sumAsked;
 
         void begin(int newArea) {
             area = newArea;
@@ -865,9 +868,10 @@ public final class VotedWater {
 
         /** An HOUR; the WEIR of the basin that is moved goes as its move says, whatever the VOTES. */
         void goBy(Law voteLaw, int movedBasin, int move) {
-            // No VOTE looks at another BASIN, so each WEIR may turn before the next VOTES are asked.
+            askVotes(voteLaw);
             for (int b = 0; b < basinCount; b++) {
-                basinAt(b).turnWeir(b == movedBasin ? move - STILL : sumOfVotes(b, voteLaw));
+                Basin basin = basinAt(b);
+                basin.turnWeir(b == movedBasin ? move - STILL : basin.sumAsked);
             }
             for (int b = 0; b < basinCount; b++) {
                 flow(b);
@@ -877,6 +881,17 @@ public final class VotedWater {
                 door.countHour(basinAt(door.basin).level());
             }
             hoursSoFar++;
+        }
+
+        // One round of all DOORS: a sum for each BASIN by itself would look at every DOOR once a BASIN.
+        private void askVotes(Law voteLaw) {
+            for (int b = 0; b < basinCount; b++) {
+                basinAt(b).sumAsked = 0;
+            }
+            for (int d = 0; d < doorCount; d++) {
+                Door door = doorAt(d);
+                basinAt(door.basin).sumAsked += voteOf(door, voteLaw);
+            }
         }
 
         private void flow(int b) {
@@ -913,25 +928,22 @@ public final class VotedWater {
 
         /** NEVER, if all the DOORS there don't do. */
         int fewestBought(int basin, int way, Law voteLaw) {
-            int against = 0;
-            int still = 0;
-            for (int d = 0; d < doorCount; d++) {
-                Door door = doorAt(d);
-                if (door.basin == basin && door.away == 0) {
-                    int vote = voteOf(door, voteLaw) * way;
-                    against += vote < 0 ? 1 : 0;
-                    still += vote == 0 ? 1 : 0;
-                }
-            }
             int sum = sumOfVotes(basin, voteLaw) * way;
-            // One that is against counts twice once it is bought: those come first.
-            for (int bought = 0; bought <= against + still; bought++) {
-                if (sum > 0) {
-                    return bought;
-                }
-                sum += bought < against ? 2 : 1;
+            if (sum > 0) {
+                return 0;
             }
-            return NEVER;
+            // A DOOR that is against counts twice once it is bought, and there are at least -sum of those; where there
+            // is none, the sum is 0, and any one DOOR does.
+            return hasVoters(basin) ? -sum / 2 + 1 : NEVER;
+        }
+
+        private boolean hasVoters(int basin) {
+            for (int d = 0; d < doorCount; d++) {
+                if (doorAt(d).basin == basin && doorAt(d).away == 0) {
+                    return true;
+                }
+            }
+            return false;
         }
 
         /** How many came, up to the first number that is no VOTE. */

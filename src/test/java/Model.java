@@ -504,8 +504,8 @@ final class Model {
             case "hours": return hours(a[0], false);
             case "wet": return hours(a[0], true);
             case "seed": { int was = now.z; now.z = a[0]; return was; }
-            case "then": range(a[0], 0, 48); basinAt(a[1]); range(a[2], 0, 8); return ofBasin(now.after(a[0]), a[1], a[2]);
-            case "thenDoor": range(a[0], 0, 48); doorAt(a[1]); range(a[2], 0, 9); return ofDoor(now.after(a[0]), a[1], a[2]);
+            case "then": return then(a[0], a[1], a[2]);
+            case "thenDoor": return thenDoor(a[0], a[1], a[2]);
             case "moves": basinAt(a[0]); return now.afterRow(a[0], row(a[1])).pains();
             case "best": return best(a[0], a[1], a[2]);
             case "storm": return storm(a[0], a[1], a[2]);
@@ -650,6 +650,20 @@ final class Model {
             now.hour(-1, 0);
         }
         return now.pains();
+    }
+
+    private int then(int n, int basin, int what) {
+        range(n, 0, 48);
+        basinAt(basin);
+        range(what, 0, 8);
+        return ofBasin(now.after(n), basin, what);
+    }
+
+    private int thenDoor(int n, int door, int what) {
+        range(n, 0, 48);
+        doorAt(door);
+        range(what, 0, 9);
+        return ofDoor(now.after(n), door, what);
     }
 
     private static String row(int row) {

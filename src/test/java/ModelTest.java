@@ -158,12 +158,11 @@ public final class ModelTest {
             case "changes": return longs(random.nextInt(14));
             case "buys": return longs(b, random.nextInt(8) == 0 ? 0 : random.nextBoolean() ? 1 : -1);
             case "comes": return longs(b, random.nextInt(Math.max(1, model.call("count", 0))), random.nextInt(50));
-            case "voice": return longs(d, random.nextInt(5), random.nextBoolean() ? random.nextInt() : random.nextInt(100));
+            case "voice": return longs(d, random.nextInt(5), random.nextInt(random.nextBoolean() ? 100 : 1 << 30) * 3);
             case "body": return longs(random.nextInt(8));
             case "sheet": return longs(s, new int[] {8, 16, 32, 32, 0, 7}[random.nextInt(6)], random.nextInt(27) - 1);
             case "put": return put(s);
-            case "move": return longs(s, random.nextInt(8), random.nextBoolean() ? s : random.nextInt(4), random.nextInt(8),
-                random.nextInt(10) - 1);
+            case "move": return move(s, random.nextBoolean() ? s : random.nextInt(4));
             case "votes": return longs(s);
             case "off": case "rained": return longs(b, s);
             case "tell": return longs(random.nextInt(4) == 0 ? random.nextInt() : random.nextInt(3) - 1);
@@ -210,7 +209,11 @@ public final class ModelTest {
 
     private long[] put(int s) {
         int i = random.nextInt(random.nextInt(4) == 0 ? 25 : 6);
-        int v = random.nextInt(4) == 0 ? random.nextInt() : random.nextInt(2) == 0 ? random.nextInt(50) : random.nextInt(5) - 2;
-        return longs(s, i, v);
+        int[] any = {random.nextInt(), random.nextInt(50), random.nextInt(5) - 2};
+        return longs(s, i, any[random.nextInt(3)]);
+    }
+
+    private long[] move(int s, int other) {
+        return longs(s, random.nextInt(8), other, random.nextInt(8), random.nextInt(10) - 1);
     }
 }

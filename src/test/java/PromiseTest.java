@@ -511,7 +511,8 @@ public final class PromiseTest {
             "votes 0 = 1", "doorIs 0 4 = 0");
         // LEVEL stays 10: OFF tells what a number is.
         Script.run("27 put",
-            "basin 1 = 0", "sheet 0 8 1 = 1", "sheet 1 16 1 = 1", "sheet 2 32 1 = 1", "put 0 0 127 = 1", "off 0 0 = 117",
+            "basin 1 = 0", "sheet 0 8 1 = 1", "sheet 1 16 1 = 1", "sheet 2 32 1 = 1", "put 0 0 127 = 1",
+            "off 0 0 = 117",
             "put 0 0 128 = 1", "off 0 0 = 138", "put 0 0 266 = 1", "off 0 0 = 0", "put 0 0 -1 = 1", "off 0 0 = 11",
             "put 1 0 128 = 1", "off 0 1 = 118", "put 1 0 65500 = 1", "off 0 1 = 46", "put 1 0 65546 = 1", "off 0 1 = 0",
             "put 1 0 32768 = 1", "off 0 1 = 1000", "put 2 0 65546 = 1", "off 0 2 = 1000", "put 2 0 -500 = 1",
@@ -544,7 +545,8 @@ public final class PromiseTest {
         // RAIN 3: LEVELS 13, 16, 19, 20, 20.
         Script.run("30 off",
             "basin 1 = 0", "basin 2 = 1", "rain 3 = 0", "sheet 0 32 4 = 1", "off 0 0 = 68", "put 0 0 13 = 1",
-            "put 0 1 17 = 1", "put 0 2 17 = 1", "put 0 3 20 = 1", "off 0 0 = 3", "off 1 0 = 3", "setBasin 1 1 30 = 20", "off 1 0 = 11", "put 0 3 2147483647 = 1",
+            "put 0 1 17 = 1", "put 0 2 17 = 1", "put 0 3 20 = 1", "off 0 0 = 3", "off 1 0 = 3",
+            "setBasin 1 1 30 = 20", "off 1 0 = 11", "put 0 3 2147483647 = 1",
             "off 0 0 = 1003", "put 0 3 -2147483648 = 1", "off 0 0 = 1003", "put 0 3 -979 = 1", "off 0 0 = 1002",
             "put 0 3 1020 = 1", "off 0 0 = 1003", "sheet 1 8 0 = 1", "off 0 1 = 0", "off 0 2 = NONE",
             "off 0 4 = BEYOND", "off 0 -1 = BEYOND", "off 2 0 = BEYOND", "off -1 0 = BEYOND", "off 2 2 = BEYOND",
@@ -573,10 +575,14 @@ public final class PromiseTest {
             "restore = 3", "hours 4 = 7", "restore = 3", "untell 0 = 1", "untell 1 = 1", "restore = 3",
             "untell 0 = 1", "untell 1 = 1", "told 2 = 1");
         Script.run("33 restore: BASINS and DOORS that came later are gone, and come again as at first",
-            "basin 1 = 0", "image = 1", "basin 2 = 1", "setBasin 1 3 50 = 20", "door 12 1 5 = 0", "setDoor 0 5 1 = 0",
-            "setDoor 0 4 1 = 2", "hours 3 = 9", "restore = 0", "basinIs 1 0 = BEYOND", "doorIs 0 0 = BEYOND",
-            "basin 4 = 1", "basinIs 1 1 = 40", "basinIs 1 3 = 20", "door 0 0 9 = 0", "doorIs 0 4 = 2", "doorIs 0 5 = 0",
-            "doorIs 0 6 = 0", "doorIs 0 2 = 0", "doorIs 0 1 = 0");
+            "basin 1 = 0", "image = 1", "basin 2 = 1", "setBasin 1 3 50 = 20", "setBasin 1 6 1 = 0",
+            "setBasin 1 4 5 = 2", "setBasin 1 5 5 = 100", "setBasin 1 7 5 = 50", "door 12 1 5 = 0", "setDoor 0 5 1 = 0",
+            "setDoor 0 4 1 = 2", "hours 3 = 9", "setDoor 0 3 50 = 5", "hours 2 = 11", "restore = 0",
+            "basinIs 1 0 = BEYOND", "doorIs 0 0 = BEYOND",
+            "basin 4 = 1", "basinIs 1 1 = 40", "basinIs 1 2 = 4", "basinIs 1 3 = 20", "basinIs 1 4 = 2",
+            "basinIs 1 5 = 100", "basinIs 1 6 = 0", "basinIs 1 7 = 50", "door 0 0 9 = 0", "doorIs 0 4 = 2",
+            "doorIs 0 5 = 0",
+            "doorIs 0 6 = 0", "doorIs 0 7 = 0", "doorIs 0 2 = 0", "doorIs 0 1 = 0");
         Script.run("32 image: LOST and FLOODED, DRY are in it",
             "basin 1 = 0", "door 0 0 5 = 0", "door 0 0 50 = 1", "setBasin 0 1 25 = 10", "hours 1 = 4", "count 5 = 5",
             "image = 1", "setBasin 0 1 99 = 20", "hours 2 = 12", "count 5 = 84", "restore = 1", "count 5 = 5",

@@ -65,13 +65,14 @@ public final class RulesTest {
             String line = lines.get(i).replaceAll("//.*|^\\s*/?\\*.*|/\\*\\*.*\\*/", "");
             rule(!words.matcher(line).find(), "line " + (i + 1) + " has what the rules forbid: " + line);
             rule(line.chars().allMatch(c -> c > 0 && c < 128), "line " + (i + 1) + " has signs above 127");
-            rule(!line.startsWith("import") || line.equals("import java.util.Arrays;"), "line " + (i + 1) + ": " + line);
+            rule(!line.startsWith("import") || line.equals("import java.util.Arrays;"), (i + 1) + ": " + line);
             classes += line.matches(".*\\b(class|interface) \\w+.*\\{") ? 1 : 0;
             int indent = line.length() - line.stripLeading().length();
-            if (line.endsWith("{") && line.contains("(") && (indent == 4 || indent == 8) && !line.matches("\\s*(if|for|while|switch).*")) {
+            boolean member = indent == 4 || indent == 8;
+            if (member && line.endsWith("{") && line.contains("(") && !line.matches("\\s*(if|for|while|switch).*")) {
                 begin = i;
             }
-            if (line.strip().equals("}") && (indent == 4 || indent == 8)) {
+            if (member && line.strip().equals("}")) {
                 rule(i - begin < 60, "line " + (begin + 1) + ": a method of more than 60 lines");
                 begin = i;
             }
