@@ -1297,14 +1297,14 @@ public final class VotedWater {
             Town trial = freshTrial(0);
             int reached = 1 << from;
             int target = 1 << to;
-            for (int hour = 0; hour < n && (reached & target) == 0; hour++) {
+            for (int hour = 0; hour <= n; hour++) {
+                if ((reached & target) != 0) {
+                    return hour;
+                }
                 trial.goBy(voteLaw, NO_BASIN, STILL);
                 reached = reachedBehind(trial, reached);
-                if ((reached & target) != 0) {
-                    return hour + 1;
-                }
             }
-            return (reached & target) != 0 ? 0 : Town.NEVER;
+            return Town.NEVER;
         }
 
         /** BASINS, as bits, where THE ENGINE may be an HOUR later. */
