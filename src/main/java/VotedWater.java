@@ -1357,14 +1357,12 @@ public final class VotedWater {
 
         final Row trace;
         boolean parted;
-        private final Row begun;
         private int kind;
         private int m;
         private int number;
 
         Speaker() {
             trace = new Row(MOST_BODIES);
-            begun = new Row(MOST_BODIES);
         }
 
         /** What is answered counts only if it has not parted. */
@@ -1373,13 +1371,8 @@ public final class VotedWater {
             m = door.m;
             number = doorNumber;
             parted = false;
-            begun.becomeEmpty();
-            int answer = speak(voice, kind, x, 0);
-            // An act that answers an ERROR changes nothing: THE TRACE stays, too.
-            if (!parted) {
-                trace.becomeLike(begun);
-            }
-            return answer;
+            trace.becomeEmpty();
+            return speak(voice, kind, x, 0);
         }
 
         /** The number of the BODY that a KIND has of its own for a voice, or 0. */
@@ -1414,12 +1407,13 @@ public final class VotedWater {
 
         /** The BODY of a voice from that KIND on. */
         private int speak(int voice, int fromKind, int x, int depth) {
-            if (depth > DEEPEST) {
+            // Once it has parted, PARTED is all: what stands right of that does not begin.
+            if (parted || depth > DEEPEST) {
                 return 0;
             }
             int body = bodyFrom(fromKind, voice);
             int deeper = depth + 1;
-            begun.add(body);
+            trace.add(body);
             switch (body) {
                 case 10: return x + number;
                 case 11: return speak(VOTES, kind, x, deeper) * 2;

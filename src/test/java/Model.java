@@ -787,14 +787,12 @@ final class Model {
         VDoor v = voiced(d.kind);
         v.k = door;
         v.m = d.m;
-        int answer;
+        trace = v.trace;
         try {
-            answer = voice == 0 ? v.votes(x) : voice == 1 ? v.fears(x) : voice == 2 ? v.floods(x) : v.pays(x);
+            return voice == 0 ? v.votes(x) : voice == 1 ? v.fears(x) : voice == 2 ? v.floods(x) : v.pays(x);
         } catch (Parted p) {
             throw new Told(6);
         }
-        trace = v.trace.size() > 30 ? v.trace.subList(0, 30) : v.trace;
-        return answer;
     }
 
     private int sheet(int sheet, int newBits, int n) {

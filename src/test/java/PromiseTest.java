@@ -493,9 +493,18 @@ public final class PromiseTest {
             "body 0 = 50", "body 1 = 12", "body 2 = 11", "body 3 = 10", "voice 6 2 7 = 8", "count 8 = 4",
             "body 0 = 12", "body 1 = 71", "body 2 = 11", "body 3 = 70", "voice 2 0 7 = 9", "count 8 = 1",
             "body 0 = 10", "told 2 = 5");
-        Script.run("25 body: an ERROR leaves THE TRACE as it was",
-            "basin 1 = 0", "door 0 0 5 = 0", "voice 0 1 7 = 14", "voice 0 3 7 = PARTED", "voice 1 0 7 = BEYOND",
-            "voice 0 4 7 = BEYOND", "count 8 = 2", "body 0 = 11", "body 1 = 10");
+        Script.run("25 body: a voice() that PARTED is the latest one, with the BODIES that had begun",
+            "basin 1 = 0", "door 0 0 5 = 0", "door 11 0 5 = 1", "door 52 0 5 = 2", "door 33 0 5 = 3", "door 44 0 5 = 4",
+            "door 65 0 5 = 5", "voice 0 3 7 = PARTED", "count 8 = 1", "body 0 = 13", "body 1 = NONE",
+            "voice 1 2 7 = 1", "count 8 = 4", "voice 1 3 7 = PARTED", "count 8 = 2", "body 0 = 21", "body 1 = 13",
+            "body 2 = NONE", "voice 1 0 7 = 1", "count 8 = 2", "body 0 = 20", "body 1 = 10", "voice 2 3 7 = PARTED",
+            "count 8 = 2", "body 0 = 21", "body 1 = 13", "voice 3 3 7 = PARTED", "count 8 = 1", "body 0 = 13",
+            "voice 4 3 7 = PARTED", "count 8 = 1", "body 0 = 13", "voice 5 1 7 = 13", "count 8 = 3",
+            "voice 5 3 7 = PARTED", "count 8 = 1", "body 0 = 13", "told 6 = 6");
+        Script.run("25 body: a voice() that is BEYOND, and restore(), leave THE TRACE as it was",
+            "basin 1 = 0", "door 0 0 5 = 0", "image = 1", "voice 0 1 7 = 14", "voice 1 0 7 = BEYOND",
+            "voice 0 4 7 = BEYOND", "count 8 = 2", "body 0 = 11", "body 1 = 10", "voice 0 3 7 = PARTED", "restore = 0",
+            "voice 0 -1 7 = BEYOND", "count 8 = 1", "body 0 = 13");
     }
 
     private static void sheets() {
