@@ -485,14 +485,20 @@ public final class TermsBoundsTest {
             "basin 1 = 0", "rain 9 = 0", "changes 1 = 0", "11 times door 0 0 99 = 0..", "door 0 0 18 = 11",
             "changes 1 = 2048", "setDoor 0 3 18 = 99", "changes 1 = 2049", "setDoor 11 3 17 = 18", "changes 1 = 1",
             "setDoor 0 3 19 = 18", "changes 1 = 0");
-        Bound.test("Term 4", "in the first HOUR (behind it as it is)",
+        Bound.test("Term 4", "if BOUGHT of that one alone were -1, 0 or 1 in the first HOUR (behind it as it is)",
             "basin 1 = 0", "door 0 0 16 = 0", "rain 9 = 0", "changes 2 = 0", "setDoor 0 4 -1 = 2", "changes 2 = 0",
             "setDoor 0 4 2 = -1", "setDoor 0 3 18 = 16", "changes 1 = 1", "changes 2 = 1", "setDoor 0 4 1 = 2",
             "changes 1 = 1", "doorIs 0 4 = 1");
         // A CELLAR that is BOUGHT up goes on so in the second HOUR, whatever it fears.
-        Bound.test("Term 4", "in the first HOUR (behind it as it is)",
+        Bound.test("Term 4", "if BOUGHT of that one alone were -1, 0 or 1 in the first HOUR (behind it as it is)",
             "basin 1 = 0", "door 10 0 16 = 0", "rain 9 = 0", "setDoor 0 4 1 = 2", "changes 1 = 0", "changes 2 = 0",
             "setDoor 0 4 2 = 1", "thenDoor 2 0 9 = 6", "doorIs 0 4 = 2");
+        // Above the WEIR's 20: up alone keeps it from being DRY; then still alone is neither FLOODED (29) nor DRY (11).
+        Bound.test("Term 4", "if BOUGHT of that one alone were -1, 0 or 1 in the first HOUR (behind it as it is)",
+            "basin 1 = 0", "door 0 0 34 = 0", "setBasin 0 4 5 = 2", "setBasin 0 1 25 = 10", "changes 1 = 1",
+            "setDoor 0 4 0 = 2", "changes 1 = 1", "setDoor 0 4 1 = 0", "changes 1 = 0", "setDoor 0 3 25 = 34",
+            "setBasin 0 4 9 = 5", "setBasin 0 1 29 = 25", "pain f+d*2 = 0", "changes 1 = 1", "setDoor 0 4 0 = 1",
+            "changes 1 = 0", "setDoor 0 4 -1 = 0", "changes 1 = 1");
         Bound.test("Term 4", "the fewest DOORS there (not AWAY) whose VOTES are to be BOUGHT so that the sum has that "
             + "sign.",
             "basin 1 = 0", "basin 1 = 1", "door 0 1 5 = 0", "buys 0 1 = NONE", "buys 0 -1 = NONE", "door 0 0 5 = 1",

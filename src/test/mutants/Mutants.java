@@ -22,10 +22,10 @@ import javax.tools.StandardJavaFileManager;
 import javax.tools.ToolProvider;
 
 /**
- * Whether the test of each boundary fails if its sentence is broken: mutants.txt tells for each sentence how
- * the program may be changed ("- what stands there", "+ what stands there then") so that it breaks that sentence; the
- * program is compiled so, and the sentence's own test must fail. Run by .ci/mutants, not by .ci/run, for it is bound to
- * the words of VotedWater.java.
+ * Whether the test of each boundary fails if its sentence is broken: mutants.txt tells for each sentence how the
+ * program may be changed ("- what stands there", "-2 .." where it stands for the second time; "+ what stands there
+ * then") so that it breaks that sentence; the program is compiled so, and the sentence's own test must fail. Run by
+ * .ci/mutants, not by .ci/run, for it is bound to the words of VotedWater.java.
  */
 public final class Mutants {
     private static final Path SOURCE = Path.of("src/main/java/VotedWater.java");
@@ -75,8 +75,6 @@ public final class Mutants {
                 which = line.charAt(1) == ' ' ? 0 : Integer.parseInt(line.substring(1, line.indexOf(' ')));
             } else if (line.startsWith("+")) {
                 mutate(sentence, place(old, which), old, line.substring(2));
-            } else if (line.startsWith("= ")) {
-                System.out.println("not to be broken alone: " + sentence + ": " + line.substring(2));
             } else if (!line.isEmpty() && !line.startsWith("#")) {
                 complain("what is this line? " + line);
             }
